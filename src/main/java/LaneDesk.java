@@ -258,18 +258,12 @@ public final class LaneDesk {
         /** What E names: a bit for each variable, and NAMES_OWN. */
         int named;
 
+        /** The rest is set by the reader where it is used; only other is looked at before that. */
         void set(int newKind, int newWhere, int newLevel) {
             kind = newKind;
             where = newWhere;
             level = newLevel;
-            end = 0;
             other = 0;
-            v = 0;
-            w = 0;
-            from = 0;
-            middle = 0;
-            to = 0;
-            named = 0;
         }
 
         boolean isIssued() {
@@ -295,7 +289,6 @@ public final class LaneDesk {
         void empty() {
             steps = 0;
             items = 0;
-            varying = 0;
         }
 
         Step addStep(int kind, int where, int level) {
@@ -702,20 +695,21 @@ public final class LaneDesk {
             }
         }
 
-        /** Whether the E of a ? or * is not 0; no for a lane that it stops. */
-        boolean agrees(Kernel kernel, Step step, int lane) {
+        /** What the E of a ?, * or X is; 0 for a lane that it stops. */
+        int decide(Kernel kernel, Step step, int lane) {
             trapped = false;
             int value = reckon(kernel, step.from, step.middle, lane);
             if (trapped) {
                 trap(step, lane);
+                return 0;
             }
-            return value != 0 && !trapped;
+            return value;
         }
 
         void exchange(Kernel kernel, Step step, int together) {
             for (int lane = 0; lane < LANES; lane++) {
                 if (isIn(together, lane)) {
-                    sources[lane] = sourceFor(kernel, step, lane);
+                    sources[lane] = Math.floorMod(decide(kernel, step, lane), LANES);
                 }
             }
             int remaining = together & ~stopped;
@@ -728,15 +722,6 @@ public final class LaneDesk {
                     variables[slot(lane, step.v)] = heard[lane];
                 }
             }
-        }
-
-        private int sourceFor(Kernel kernel, Step step, int lane) {
-            trapped = false;
-            int value = reckon(kernel, step.from, step.middle, lane);
-            if (trapped) {
-                trap(step, lane);
-            }
-            return Math.floorMod(value, LANES);
         }
 
         private void put(int lane, int number) {
@@ -839,7 +824,6 @@ public final class LaneDesk {
         void begin(Kernel kernel, int[] inputs, int takingPart) {
             crew.gather(inputs, takingPart);
             Arrays.fill(before, 0);
-            Arrays.fill(waiting, 0);
             started = true;
             over = false;
             masked = ALL_LANES & ~crew.stopped;
@@ -877,7 +861,7 @@ public final class LaneDesk {
         private void part(Kernel kernel, Step step) {
             int agreeing = 0;
             for (int lane = 0; lane < LANES; lane++) {
-                if (isIn(masked, lane) && crew.agrees(kernel, step, lane)) {
+                if (isIn(masked, lane) && crew.decide(kernel, step, lane) != 0) {
                     agreeing |= 1 << lane;
                 }
             }
@@ -977,18 +961,17 @@ public final class LaneDesk {
                 if (isHeld(kernel, lane)) {
                     return true;
                 }
-                here[lane & 7] = afterStep(kernel, lane);
+                here[lane & 7] = behindBraces(kernel, afterStep(kernel, lane));
             }
             return isHeld(kernel, lane);
         }
 
-        /** Passes closing braces first, for they cost nothing. */
         private boolean isHeld(Kernel kernel, int lane) {
-            here[lane & 7] = behindBraces(kernel, here[lane & 7]);
-            return isIn(crew.stopped, lane) || here[lane & 7] >= kernel.steps
-                    || kernel.stepAt(here[lane & 7]).kind == EXCHANGE;
+            int row = here[lane & 7];
+            return isIn(crew.stopped, lane) || row >= kernel.steps || kernel.stepAt(row).kind == EXCHANGE;
         }
 
+        /** A lane is never left at a closing brace, for that costs nothing. */
         private static int behindBraces(Kernel kernel, int from) {
             int row = from;
             for (int moves = 0; moves <= MOST_STEPS && row < kernel.steps; moves++) {
@@ -1009,7 +992,7 @@ public final class LaneDesk {
             int row = here[lane & 7];
             Step step = kernel.stepAt(row);
             if (step.kind == IF || step.kind == WHILE) {
-                return crew.agrees(kernel, step, lane) ? row + 1 : step.other + 1;
+                return crew.decide(kernel, step, lane) != 0 ? row + 1 : step.other + 1;
             }
             crew.act(kernel, step, lane);
             return row + 1;
@@ -1027,13 +1010,14 @@ public final class LaneDesk {
 
         /** No X stands where lanes may be parted, so all that are at one are at the same. */
         private void exchange(Kernel kernel, int atX) {
-            int first = Integer.numberOfTrailingZeros(atX) & 7;
-            crew.exchange(kernel, kernel.stepAt(here[first]), atX);
+            int row = 0;
             for (int lane = 0; lane < LANES; lane++) {
                 if (isIn(atX, lane)) {
-                    here[lane]++;
+                    row = here[lane];
+                    here[lane] = behindBraces(kernel, row + 1);
                 }
             }
+            crew.exchange(kernel, kernel.stepAt(row), atX);
         }
     }
 }

@@ -14,6 +14,8 @@ public final class StepTest {
         exchangeStops();
         traps();
         reckoning();
+        longest();
+        afterAnother();
         CHECK.end();
     }
 
@@ -138,6 +140,8 @@ public final class StepTest {
     private static void nesting() {
         dueMasks("?n<6{?n<4{?n<2{?n<1{a=1;}{b=1;}c=1;}{d=1;}e=1;}{f=1;}g=1;}{h=1;}a=2;",
                 255, 63, 15, 3, 1, 2, 3, 12, 15, 48, 63, 192, 255);
+        dueMasks("?n{?1{}?1{}a=1;}", 255, 254, 254, 254);
+        dueMasks("?n{*0{}*0{}a=1;}", 255, 254, 254, 254);
         dueMasks("*a<n{?n&1{a=a+n;}{*b<n{b=b+4;}a=n;}}",
                 255, 254, 170, 84, 84, 84, 64, 64, 84, 254);
     }
@@ -163,6 +167,10 @@ public final class StepTest {
         CHECK.due("and has no b", desk.cell(false, 4, 9), 0);
         CHECK.due("and gives 0", desk.out(false, 3, 0), 0);
         CHECK.due("lane 3 gives its own", desk.out(false, 2, 0), 4);
+        LaneDesk first = dueMasks("a=n+1;XbaI[16-n]+n+7;Ob;", 255, 255, 254);
+        CHECK.due("lane 0 is stopped by its E", first.lane(false, 0, 1), 7);
+        CHECK.due("and gives 0", first.out(false, 1, 0), 0);
+        CHECK.due("lane 1 gives its own", first.out(false, 2, 0), 2);
     }
 
     private static void traps() {
@@ -212,6 +220,53 @@ public final class StepTest {
         dueOut("I[1+1]", 77);
         dueOut("I[I[3]]*2", 154);
         dueOut("L[0]-1", -1);
+    }
+
+    private static void longest() {
+        LaneDesk choices = Check.started("?n{}".repeat(40));
+        CHECK.due("all of 40 ? but one", choices.run(39), 0);
+        CHECK.due("the last one", choices.run(1), 1);
+        LaneDesk loops = Check.started("?0{}{}".repeat(26) + "*0{}");
+        CHECK.due("26 ? with two blocks and a *", loops.run(27), 1);
+        CHECK.due("all are issued", loops.spent(1), 27 * 8);
+        LaneDesk marks = Check.started("R;".repeat(80));
+        CHECK.due("the first of 80", marks.run(1), 1);
+        dueOut("1" + "+1".repeat(78), 79);
+        dueOut("n" + "+n".repeat(78), 237);
+    }
+
+    /** Nothing of a run that was left within its blocks is there in the next kernel's. */
+    private static void afterAnother() {
+        LaneDesk desk = Check.started("?1{?1{*1{?1{a=1;}}}}");
+        desk.run(4);
+        dueNext(desk, "a=(", 1);
+        dueNext(desk, "?1{*1{", 1);
+        dueNext(desk, "?n<4{?1{a=1;}b=1;}", 0);
+        desk.start();
+        CHECK.due("run", desk.run(4), 1);
+        CHECK.due("busy", desk.spent(1), 8 + 4 + 4 + 4);
+        CHECK.due("b of the lanes in the block", desk.cell(false, 3, 9), 1);
+        CHECK.due("b of the others", desk.cell(false, 4, 9), 0);
+        dueNext(desk, "c=n;?n{Xab0;}", 2);
+        dueNext(desk, "?n<2{?1{c=1;}d=1;}e=1;", 0);
+        desk.start();
+        CHECK.due("run", desk.run(5), 1);
+        CHECK.due("busy", desk.spent(1), 8 + 2 + 2 + 2 + 8);
+        for (int k = 0; k < 4; k++) {
+            dueNext(desk, "Oc+(" + "1+".repeat(60) + "n);", 0);
+        }
+        desk.start();
+        CHECK.due("run of a text compiled four times", desk.run(1), 1);
+        CHECK.due("its number", desk.out(false, 7, 0), 67);
+        dueNext(desk, "?n<2{?1{c=1;}d=1;}e=1;", 0);
+        CHECK.due("a does not vary in the last one", desk.varies(0), false);
+        CHECK.due("c does", desk.varies(2), true);
+    }
+
+    private static void dueNext(LaneDesk desk, String text, int answer) {
+        desk.clear();
+        Check.type(desk, text);
+        CHECK.due("compile of " + text, desk.compile(), answer);
     }
 
     private static void dueOut(String expression, int want) {

@@ -12,6 +12,10 @@ public final class VariesTest {
         dueVaries("a=I[I[L[1]]];", "a");
         dueVaries("a=b;b=c;c=d;d=e;e=f;f=g;g=h;h=n;", "abcdefgh");
         dueVaries("h=n;g=h;e=g;", "egh");
+        dueVaries("a=n+b;", "a");
+        dueVaries("a=b+n;", "a");
+        dueVaries("a=n;b=a+c;d=c+a;e=c+c;", "abd");
+        dueVaries("a=L[1]+I[b];c=n*(b-I[b]);", "ac");
         dueVaries("Xab0;", "a");
         dueVaries("c=a;Xab0;", "ac");
         dueVaries("?n{a=1;}{b=2;}c=3;", "ab");
