@@ -1,3 +1,5 @@
+import java.util.Arrays;
+
 /** What the tests share: it counts the answers that are not due, and makes desks out of texts. */
 final class Check {
     private int wrong = 0;
@@ -53,6 +55,13 @@ final class Check {
         }
     }
 
+    /** Numbers outside a range: the first ones on both sides, some that would wrap round into it, the ends of int. */
+    static int[] outside(int least, int most) {
+        int[] candidates = {least - 1, most + 1, least - 8, most + 8, -1, -256, 32, 256, 65536, 1 << 30,
+            Integer.MIN_VALUE, Integer.MIN_VALUE + 1, Integer.MAX_VALUE - 1, Integer.MAX_VALUE};
+        return Arrays.stream(candidates).filter(k -> k < least || k > most).distinct().toArray();
+    }
+
     /** The word whose lowest bytes are the characters, the first one highest. */
     static long word(String characters) {
         long word = 0;
@@ -88,5 +97,19 @@ final class Check {
         LaneDesk desk = compiled(text);
         desk.start();
         return desk;
+    }
+
+    /** Both runs of a text are done. */
+    static LaneDesk done(String text) {
+        LaneDesk desk = started(text);
+        finish(desk);
+        return desk;
+    }
+
+    /** Both runs of a desk that is started are done. */
+    static void finish(LaneDesk desk) {
+        if (desk.run(500) != 1 || desk.alone(4000) != 1) {
+            throw new AssertionError("the fuel does not do");
+        }
     }
 }
