@@ -16,6 +16,7 @@ public final class FuelEdgeTest {
         exchangeCosts();
         neverEnds();
         runsDoNotShareFuel();
+        longestRunOfADesk();
         CHECK.end();
     }
 
@@ -266,5 +267,19 @@ public final class FuelEdgeTest {
         CHECK.due("the rest in step", desk.run(2), 1);
         CHECK.due("out in step", desk.out(false, 7, 0), 1);
         CHECK.dueState("out alone", () -> desk.out(true, 7, 0));
+    }
+
+    /** "An object is used for at most 512 calls": no run can be longer than this, and all of it is counted. */
+    private static void longestRunOfADesk() {
+        LaneDesk desk = Check.started("*1{O1;}");
+        for (int calls = 4; calls < 508; calls++) {
+            if (desk.run(500) != 0) {
+                CHECK.report("a run that never ends is over");
+            }
+        }
+        CHECK.due("issued", desk.spent(0), 504 * 500);
+        CHECK.due("busy", desk.spent(1), 504 * 500 * 8);
+        CHECK.due("numbers", desk.lane(false, 7, 0), 504 * 250);
+        CHECK.due("call 512", desk.mask(), 255);
     }
 }

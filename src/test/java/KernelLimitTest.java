@@ -368,6 +368,11 @@ public final class KernelLimitTest {
         due("?1{*n{}Xab0;}", 0, -1);
         due("?1{?n{?n{}}}{Xab0;?n{}}", 0, -1);
         due("?h{Xab0;}g=n;f=g;e=f;d=e;c=d;b=c;h=b;", 2, 3);
+        due("?a{a=b;b=c;c=d;d=e;e=f;f=g;g=h;Xhb0;}", 2, 31);
+        due("*a{a=b;b=c;c=d;d=e;e=f;f=g;g=h;Xhb0;}", 2, 31);
+        due("?a{a=b;b=c;c=d;d=e;e=f;f=g;g=g;Xhb0;}", 0, -1);
+        due("?a{Xhb0;}a=b;b=c;c=d;d=e;e=f;f=g;g=h;", 2, 3);
+        due("?a{Xhb0;}a=b;b=c;c=d;d=e;e=f;f=g;", 0, -1);
         due("?h{Xab0;}h=a;", 2, 3);
         due("?h{Xab0;}h=b;", 0, -1);
         due("?h{Xab0;}?n{h=1;}", 2, 3);

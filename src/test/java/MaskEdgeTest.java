@@ -8,6 +8,7 @@ public final class MaskEdgeTest {
         exchangeWithLanesThatTakeNoPart();
         fullAndEmptyChoices();
         fullAndEmptyLoops();
+        choiceIsMadeOnce();
         emptyMasksArePassedOver();
         stoppedLanesComeBackNowhere();
         statementBehindHasThoseOfBefore();
@@ -111,6 +112,15 @@ public final class MaskEdgeTest {
         dueMasks(8, "?n=8{a=1;}{b=1;}c=1;", 255, 255, 255);
         dueMasks(1, "?n{a=1;}{b=1;}c=1;", 1, 1, 1);
         dueMasks(7, "?n=7{a=1;}c=1;", 127, 127);
+    }
+
+    /** E is reckoned when ? is issued: what its first block gives does not count for its second one. */
+    private static void choiceIsMadeOnce() {
+        dueMasks(8, "?a=0{a=1;}{b=1;}c=1;", 255, 255, 255);
+        dueMasks(8, "?n<4-a{a=1;}{a=2;}?a=1{b=1;}{c=1;}", 255, 15, 240, 255, 15, 240);
+        LaneDesk desk = dueMasks(8, "?L[0]{L[0]=0;}{L[0]=L[0]+1;}?L[0]{L[0]=0;}{L[0]=9;}", 255, 255, 255, 255);
+        CHECK.due("cell 0", desk.cell(false, 0, 0), 0);
+        CHECK.due("cell 0 alone", desk.cell(true, 0, 0), 0);
     }
 
     /** "* is issued; then its block with those for which E was not 0, and again with these, until there are none." */

@@ -21,6 +21,8 @@ public final class TrapEdgeTest {
         allLanes();
         doneIsNoTrap();
         trapStaysTheFirst();
+        onlyItsOwnExpressions();
+        onlyItsOwnExpressionsOfALaterKernel();
         CHECK.end();
     }
 
@@ -272,6 +274,33 @@ public final class TrapEdgeTest {
         for (boolean alone : new boolean[] {false, true}) {
             CHECK.due("trap of 3", desk.lane(alone, 3, 1), 6);
             CHECK.due("trap of 4", desk.lane(alone, 4, 1), 14);
+        }
+    }
+
+    /** What a statement before or behind it names, and what would be a trap by now, is nothing to a statement. */
+    private static void onlyItsOwnExpressions() {
+        for (String text : new String[] {"c=1;", "O1;", "L[0]=1;", "Xcc0;", "?1{}", "*0{}", "R;"}) {
+            LaneDesk desk = done("a=I[b];L[b]=L[b];OI[b];?I[b]{}b=16;" + text + "?0{OI[b];L[b]=I[b];}", 0);
+            for (boolean alone : new boolean[] {false, true}) {
+                CHECK.due("trap of " + text, desk.lane(alone, 0, 1), 0);
+            }
+        }
+    }
+
+    /** The same for expressions of kernels before, whether they were right or wrong. */
+    private static void onlyItsOwnExpressionsOfALaterKernel() {
+        String longOnes = "L[(1+1+1+1+1+1)]=1+1+1+1+1+1+1+1+1+1+1+1;".repeat(3);
+        String shortOnes = "c=1;O1;d=2;?0{OI[16];L[16]=I[16];OI[16]+I[16]+I[16]+I[16];}";
+        LaneDesk desk = new LaneDesk();
+        for (String text : new String[] {longOnes, longOnes, shortOnes, longOnes + "!", shortOnes, longOnes, shortOnes}) {
+            desk.clear();
+            Check.type(desk, text);
+            CHECK.due("compile of " + text, desk.compile(), text.endsWith("!") ? 1 : 0);
+            desk.start();
+            Check.finish(desk);
+            for (boolean alone : new boolean[] {false, true}) {
+                CHECK.due("trap of " + text, desk.lane(alone, 0, 1), 0);
+            }
         }
     }
 }
