@@ -420,7 +420,7 @@ public final class LaneDesk {
         }
 
         private boolean take(int sign) {
-            if (next() != sign) {
+            if (at < 0 || at >= length || text[at] != sign) {
                 return false;
             }
             at++;
